@@ -545,19 +545,14 @@ public final class FallingLines {
             if (beneath == 0) {
                 return FALL;
             }
-            int least = NONE;
-            int greatest = NONE;
-            for (int c = 0; c < COLUMNS; c++) {
-                if ((beneath >> c & 1) != 0) {
-                    least = least == NONE ? c : least;
-                    greatest = c;
-                }
-            }
+            // Twice the middle: a line leans to the side on which, from the middle on, nothing is beneath it.
             int firstAndLast = 2 * column[number] + width[number] - 1;
-            if (firstAndLast < 2 * least) {
+            int upToMiddle = (2 << firstAndLast / 2) - 1;
+            if ((beneath & upToMiddle) == 0) {
                 return isFreeBeside(number, false) ? LEFT : STAY;
             }
-            if (firstAndLast > 2 * greatest) {
+            int fromMiddle = beneath >> (firstAndLast + 1) / 2;
+            if (fromMiddle == 0) {
                 return isFreeBeside(number, true) ? RIGHT : STAY;
             }
             return STAY;
@@ -609,7 +604,10 @@ public final class FallingLines {
 
         /** The lines that have a square in a row and beneath or above those of a line, as a mask. */
         private int linesNear(int number, int nearRow) {
-            if (row[number] < 0 || nearRow < 0) {
+            if (row[number] < 0 || nearRow < 0 || nearRow >= ROWS) {
+                return 0;
+            }
+            if ((filled[nearRow] & span[number]) == 0) {
                 return 0;
             }
             int near = 0;
@@ -623,6 +621,9 @@ public final class FallingLines {
 
         private int loadOf(int number) {
             int above = linesNear(number, row[number] - 1);
+            if (above == 0) {
+                return 0;
+            }
             int load = 0;
             for (int i = 0; i < size; i++) {
                 if ((above >> i & 1) != 0) {
@@ -685,6 +686,9 @@ public final class FallingLines {
         }
 
         int lineOn(int itsRow, int itsColumn) {
+            if (itsRow < 0 || itsRow >= ROWS || (filled[itsRow] >> itsColumn & 1) == 0) {
+                return NONE;
+            }
             for (int i = 0; i < size; i++) {
                 if (row[i] == itsRow && (span[i] >> itsColumn & 1) != 0) {
                     return i;

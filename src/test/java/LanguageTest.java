@@ -47,7 +47,8 @@ final class LanguageTest {
         Matcher m = Pattern.compile("(?m)^.*\\bnew \\w+.*$").matcher(code);
         while (m.find()) {
             String made = m.group().trim();
-            boolean fine = made.startsWith("throw new ") || made.contains("final ") || made.equals("states[i] = new Poem();");
+            boolean fine = made.startsWith("throw new ") || made.contains("final ")
+                    || made.equals("states[i] = new Poem();");
             Check.dueText("made in a call", fine ? "" : made, "");
         }
     }

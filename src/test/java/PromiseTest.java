@@ -441,7 +441,8 @@ final class PromiseTest {
 
     // Promise 10
     private static void read() {
-        for (String text : new String[] {"", "1", "1w", "1w1", "1w1@", "1w1@1+", "1w1@1;", "1w1@1;2", "13w1@1", "1w1@24"}) {
+        String[] wrong = {"", "1", "1w", "1w1", "1w1@", "1w1@1+", "1w1@1;", "1w1@1;2", "13w1@1", "1w1@24"};
+        for (String text : wrong) {
             FallingLines x = typed(text);
             Check.argument("read of " + text, () -> x.read());
             Check.due("the buffer stays", x.clearBuffer(), text.length());
