@@ -432,8 +432,9 @@ public final class FallingLines {
             return taken;
         }
 
+        /** False also for what is no line's number, as join() answers when there is no room. */
         boolean isOnScreen(int number) {
-            return row[number] >= 0;
+            return number >= 0 && number < size && row[number] >= 0 && row[number] < ROWS;
         }
 
         void passBeat() {
@@ -580,13 +581,14 @@ public final class FallingLines {
         boolean isFreeBeside(int number, boolean right) {
             int itsRow = row[number];
             int beside = right ? column[number] + width[number] : column[number] - 1;
-            return itsRow >= 0 && beside >= 0 && beside < COLUMNS && (filled[itsRow] >> beside & 1) == 0;
+            boolean isThere = itsRow >= 0 && itsRow < ROWS && beside >= 0 && beside < COLUMNS;
+            return isThere && (filled[itsRow] >> beside & 1) == 0;
         }
 
         /** Moves a line beside which the square is free. */
         void slide(int number, boolean right) {
             int itsRow = row[number];
-            if (itsRow < 0) {
+            if (itsRow < 0 || itsRow >= ROWS) {
                 return;
             }
             filled[itsRow] &= ~span[number];

@@ -2,8 +2,10 @@ import java.util.Random;
 
 /** Long runs of calls on a FallingLines and on a SlowLines, whose answers must be the same. */
 final class CompareTest {
-    private static final int RUNS = 100;
+    private static final int RUNS = 150;
+    // What later calls of an object answer is free.
     private static final int CALLS = 512;
+    private static final int LONGEST_TYPING = 4;
     private static final int[] ODD = {Integer.MIN_VALUE, -2, -1, 13, 24, 51, 100, 127, 1000, Integer.MAX_VALUE};
 
     private final Random random;
@@ -13,6 +15,7 @@ final class CompareTest {
     // How close together lines are let go, so that some runs are crowded and some are sparse.
     private final int crowd;
     private String typing = "";
+    private int calls = 0;
 
     private CompareTest(int run) {
         random = new Random(run);
@@ -28,10 +31,11 @@ final class CompareTest {
     }
 
     private void compare() {
-        for (int i = 0; i < CALLS; i++) {
-            String where = name + i;
-            if (i % 40 == 39) {
-                Check.due(where + " digest", fast.digest(), slow.digest());
+        // A text may be typed by several calls at once.
+        while (calls + LONGEST_TYPING <= CALLS) {
+            String where = name + calls;
+            if (random.nextInt(40) == 0) {
+                same(where + " digest", () -> fast.digest(), () -> slow.digest());
             } else {
                 callOne(where);
             }
@@ -39,6 +43,7 @@ final class CompareTest {
     }
 
     private void same(String where, Check.Call one, Check.Call two) {
+        calls++;
         Check.dueText(where, Check.answerOf(one), Check.answerOf(two));
     }
 
@@ -100,7 +105,7 @@ final class CompareTest {
         } else if (kind == 2) {
             same(where + " firstError", () -> fast.firstError(), () -> slow.firstError());
         } else {
-            for (int i = 0; i < 4; i++) {
+            for (int i = 0; i < LONGEST_TYPING; i++) {
                 int code = nextCode();
                 same(where + " append", () -> fast.append(code), () -> slow.append(code));
             }

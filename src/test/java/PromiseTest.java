@@ -1,4 +1,4 @@
-/** For each promise of the document: ordinary inputs, the edges that it names, and wrong inputs. */
+/** For each promise but the 21st (DigestTest): ordinary inputs, the edges that it names, and wrong inputs. */
 final class PromiseTest {
     private static final int NONE = FallingLines.NONE;
     private static final int[] WRONG = {Integer.MIN_VALUE, -1, 1000, Integer.MAX_VALUE};
@@ -34,33 +34,8 @@ final class PromiseTest {
         bestColumn();
         ifReset();
         fullness();
-        digest();
         thrownChangesNothing();
         Check.end("PromiseTest");
-    }
-
-    private static void type(FallingLines x, String text) {
-        for (int i = 0; i < text.length(); i++) {
-            x.append(text.charAt(i));
-        }
-    }
-
-    private static FallingLines typed(String text) {
-        FallingLines x = new FallingLines();
-        type(x, text);
-        return x;
-    }
-
-    /** Two posts on the ground, at the columns 2 and 6, and a line that slides between them for ever. */
-    private static FallingLines restless() {
-        FallingLines x = new FallingLines();
-        x.set(9);
-        x.line(1, 9, 2, 1, 0);
-        x.line(1, 9, 6, 2, 0);
-        x.run(5);
-        x.line(4, 1, 3, 3, 0);
-        x.run(20);
-        return x;
     }
 
     // Promise 1
@@ -407,12 +382,12 @@ final class PromiseTest {
 
     // Promise 8
     private static void clearBuffer() {
-        FallingLines x = typed("1w1@");
+        FallingLines x = Poems.typed("1w1@");
         Check.due("clearBuffer", x.clearBuffer(), 4);
         Check.due("clearBuffer again", x.clearBuffer(), 0);
         Check.due("clearBuffer saves nothing", x.count(11), 0);
         Check.due("append then", x.append('1'), 1);
-        type(x, "w1@0");
+        Poems.type(x, "w1@0");
         Check.due("nothing of the earlier text is left", x.read(), 1);
     }
 
@@ -421,29 +396,29 @@ final class PromiseTest {
         String[] right = {"", "1", "12", "9w", "10w9", "11w1@", "1w1@0", "1w1@19", "1w1@23", "1w1@9+", "12w9@23+50",
             "1w1@0+0", "1w1@2+49;", "1w1@2;1", "1w1@2+7;12w3@4;", "12w9@23;12w9@23+1", "1w1@3+5"};
         for (String text : right) {
-            Check.due("firstError of " + text, typed(text).firstError(), text.length());
+            Check.due("firstError of " + text, Poems.typed(text).firstError(), text.length());
         }
         String[] wrong = {"0", "w", ";", "@", "+", "~", "13", "20", "123", "1@", "1;", "1w0", "1ww", "1w1w", "1w10",
             "1w1;", "1w1+", "1w1@w", "1w1@24", "1w1@30", "1w1@00", "1w1@01", "1w1@100", "1w1@;", "1w1@+", "1w1@1@",
             "1w1@1w", "1w1@1++", "1w1@1+;", "1w1@1+51", "1w1@1+60", "1w1@1+00", "1w1@1+05", "1w1@1+1+", "1w1@1+100",
             "1w1@1+1w", "1w1@1;;", "1w1@1;0", "1w1@1;w", "1w1@1+2;+", "1W", "1w1@-", "1w1@1,"};
         for (String text : wrong) {
-            Check.due("firstError of " + text, typed(text).firstError(), text.length() - 1);
-            Check.due("firstError of more than " + text, typed(text + "1w1@0").firstError(), text.length() - 1);
+            Check.due("firstError of " + text, Poems.typed(text).firstError(), text.length() - 1);
+            Check.due("firstError of more than " + text, Poems.typed(text + "1w1@0").firstError(), text.length() - 1);
         }
         String full = "1w1@1;1w1@1;1w1@1;1w1@1;1w1@1;1w1@1;1w1@1;1w1@1;1w1@1;1w1@12";
-        FallingLines x = typed(full);
+        FallingLines x = Poems.typed(full);
         Check.due("firstError of a full buffer", x.firstError(), 60);
         Check.due("firstError does not clear", x.clearBuffer(), 60);
         Check.due("firstError of a full buffer that must go on",
-                typed(full.substring(0, 54) + "1w1@1;").firstError(), 60);
+                Poems.typed(full.substring(0, 54) + "1w1@1;").firstError(), 60);
     }
 
     // Promise 10
     private static void read() {
         String[] wrong = {"", "1", "1w", "1w1", "1w1@", "1w1@1+", "1w1@1;", "1w1@1;2", "13w1@1", "1w1@24"};
         for (String text : wrong) {
-            FallingLines x = typed(text);
+            FallingLines x = Poems.typed(text);
             Check.argument("read of " + text, () -> x.read());
             Check.due("the buffer stays", x.clearBuffer(), text.length());
             Check.due("no line of " + text, x.count(1), 0);
@@ -451,7 +426,7 @@ final class PromiseTest {
         }
         FallingLines x = new FallingLines();
         x.run(7);
-        type(x, "12w9@12+50;1w1@0");
+        Poems.type(x, "12w9@12+50;1w1@0");
         Check.due("read", x.read(), 2);
         Check.due("the buffer is empty", x.clearBuffer(), 0);
         int[] first = {12, 9, 0, 12, 57, 0};
@@ -461,33 +436,33 @@ final class PromiseTest {
             Check.due("read line 1, " + what, x.lineOf(1, what), second[what]);
         }
         Check.due("read saves once", x.count(11), 2);
-        type(x, "2w");
+        Poems.type(x, "2w");
         Check.due("undo of read", x.undo(), 1);
         Check.due("no lines", x.count(1), 0);
         Check.due("the buffer is not restored", x.clearBuffer(), 2);
     }
 
     private static void readStops() {
-        FallingLines x = typed("1w1@0;12w1@13;1w1@2");
+        FallingLines x = Poems.typed("1w1@0;12w1@13;1w1@2");
         Check.due("read up to one off the screen", x.read(), 1);
-        type(x, "12w1@23");
+        Poems.type(x, "12w1@23");
         Check.due("read of none", x.read(), 0);
         Check.due("also saved if none is added", x.count(11), 2);
         Check.due("also cleared if none is added", x.clearBuffer(), 0);
         x.run(50);
-        type(x, "1w1@0+49;1w1@1+50;1w1@2");
+        Poems.type(x, "1w1@0+49;1w1@1+50;1w1@2");
         Check.due("read up to a beat above 99", x.read(), 1);
         Check.due("the beat 99", x.lineOf(1, 4), 99);
         x.run(50);
-        type(x, "1w1@0");
+        Poems.type(x, "1w1@0");
         Check.due("read at the beat 100", x.read(), 0);
         FallingLines full = new FallingLines();
         for (int i = 0; i < 8; i++) {
             full.line(1, 1, i, 0, 0);
         }
-        type(full, "1w1@10;1w1@11;1w1@12;1w1@13");
+        Poems.type(full, "1w1@10;1w1@11;1w1@12;1w1@13");
         Check.due("read up to ten lines", full.read(), 2);
-        FallingLines ten = typed("1w1@0;1w1@1;1w1@2;1w1@3;1w1@4;1w1@5;1w1@6;1w1@7;1w1@8;1w1@9");
+        FallingLines ten = Poems.typed("1w1@0;1w1@1;1w1@2;1w1@3;1w1@4;1w1@5;1w1@6;1w1@7;1w1@8;1w1@9");
         Check.due("read of ten lines", ten.read(), 10);
         Check.due("the column of the tenth", ten.lineOf(9, 3), 9);
     }
@@ -562,16 +537,12 @@ final class PromiseTest {
         for (int what = 0; what < 12; what++) {
             Check.due("a gone one, " + what, x.lineOf(0, what), gone[what]);
         }
-        FallingLines y = new FallingLines();
-        y.line(1, 9, 5, 0, 0);
-        y.line(1, 2, 5, 0, 5);
-        y.run(30);
-        y.set(1);
+        FallingLines y = Poems.overloaded();
         Check.due("at rest, whatever its load", y.lineOf(0, 5), 2);
         Check.due("its load", y.lineOf(0, 7), 2);
         Check.due("its strength", y.lineOf(0, 8), 1);
         Check.due("leaning, but in the last row", y.lineOf(1, 5), 2);
-        FallingLines z = restless();
+        FallingLines z = Poems.restless();
         Check.due("on a post, and not at rest", z.lineOf(2, 5), 1);
         Check.due("beneath it", z.lineOf(2, 9) == 1 || z.lineOf(2, 9) == 2 ? 1 : 0, 1);
     }
@@ -674,13 +645,8 @@ final class PromiseTest {
         later.line(2, 1, 0, 0, 0);
         later.line(2, 1, 5, 0, 7);
         Check.due("one comes before all is at rest", later.untilRest(), 22);
-        Check.due("one slides for ever", restless().untilRest(), NONE);
-        FallingLines load = new FallingLines();
-        load.line(1, 9, 5, 0, 0);
-        load.line(1, 2, 5, 0, 5);
-        load.run(30);
-        load.set(1);
-        Check.due("a line breaks, then the upper one falls", load.untilRest(), 2);
+        Check.due("one slides for ever", Poems.restless().untilRest(), NONE);
+        Check.due("a line breaks, then the upper one falls", Poems.overloaded().untilRest(), 2);
         FallingLines edge = new FallingLines();
         for (int i = 0; i < 10; i++) {
             edge.line(12, 1, 0, 0, 0);
@@ -724,7 +690,7 @@ final class PromiseTest {
             itToo.line(1, 1, 23, 1, 90);
         }
         Check.due("an eleventh one", itToo.ifDropped(1, 1, 20, 0), 15);
-        FallingLines never = restless();
+        FallingLines never = Poems.restless();
         Check.due("no rest, row", never.ifDropped(2, 1, 20, 0), NONE);
         Check.due("no rest, column", never.ifDropped(2, 1, 20, 1), NONE);
         Check.due("no rest, breaks", never.ifDropped(2, 1, 20, 2), 0);
@@ -766,7 +732,7 @@ final class PromiseTest {
         edge.line(1, 9, 12, 0, 0);
         edge.run(5);
         Check.due("the lowest row, by more slides", edge.bestColumn(11, 1), 8);
-        Check.due("no rest", restless().bestColumn(12, 1), NONE);
+        Check.due("no rest", Poems.restless().bestColumn(12, 1), NONE);
     }
 
     // Promise 19
@@ -791,7 +757,7 @@ final class PromiseTest {
         Check.due("nothing is changed", x.count(5), 0);
         x.set(1);
         Check.due("those that would break count, too", x.ifReset(3), 3);
-        FallingLines never = restless();
+        FallingLines never = Poems.restless();
         Check.due("no rest without another", never.ifReset(0), NONE);
         Check.due("rest without itself", never.ifReset(3), 0);
         Check.due("rest without a post", never.ifReset(1), 1);
@@ -810,68 +776,8 @@ final class PromiseTest {
         Check.due("fullness with a gone one", Double.doubleToLongBits(x.fullness()), Double.doubleToLongBits(0.03125));
     }
 
-    // Promise 21
-    private static long hash(FallingLines x, int strength, String buffer) {
-        long h = 2909;
-        for (int i = 0; i < 12; i++) {
-            h = 31 * h + x.count(i);
-        }
-        h = 31 * h + strength;
-        for (int n = 0; n < x.count(1); n++) {
-            for (int i = 0; i < 12; i++) {
-                h = 31 * h + x.lineOf(n, i);
-            }
-        }
-        for (int square = 0; square < 384; square++) {
-            h = 31 * h + x.at(square / 24, square % 24);
-        }
-        for (int i = 0; i < 10; i++) {
-            h = 31 * h + x.reads(i);
-        }
-        h = 31 * h + x.untilRest();
-        for (int i = 0; i < 3; i++) {
-            h = 31 * h + x.ifDropped(5, 3, 4, i);
-        }
-        h = 31 * h + x.bestColumn(6, 2);
-        for (int i = 0; i < 4; i++) {
-            h = 31 * h + x.ifReset(i);
-        }
-        h = 31 * h + Double.doubleToLongBits(x.fullness());
-        h = 31 * h + buffer.length();
-        for (int i = 0; i < buffer.length(); i++) {
-            h = 31 * h + buffer.charAt(i);
-        }
-        return h;
-    }
-
-    private static void digest() {
-        Check.due("digest of a new object", new FallingLines().digest(), hash(new FallingLines(), 2, ""));
-        FallingLines x = typed("1w~");
-        x.set(4);
-        x.line(12, 9, 3, 1, 0);
-        x.line(2, 3, 3, 2, 1);
-        x.line(7, 4, 9, 0, 2);
-        x.line(1, 1, 23, 3, 90);
-        for (int i = 0; i < 12; i++) {
-            x.run(1);
-            Check.due("digest after beats", x.digest(), hash(x, 4, "1w~"));
-        }
-        x.append('!');
-        Check.due("digest with more text", x.digest(), hash(x, 4, "1w~!"));
-        Check.due("digest changes nothing", x.digest(), hash(x, 4, "1w~!"));
-        Check.due("digest without rest", restless().digest(), hash(restless(), 9, ""));
-        for (int many = 1; many <= 10; many++) {
-            FallingLines y = new FallingLines();
-            for (int i = 0; i < many; i++) {
-                y.line(1 + i, 1, 12 - i, 0, i);
-            }
-            y.run(10);
-            Check.due("digest of " + many + " lines", y.digest(), hash(y, 2, ""));
-        }
-    }
-
     private static void thrownChangesNothing() {
-        FallingLines x = typed("1w1@0+");
+        FallingLines x = Poems.typed("1w1@0+");
         x.line(3, 4, 5, 1, 0);
         x.run(3);
         long before = x.digest();
