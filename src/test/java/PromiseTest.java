@@ -34,7 +34,6 @@ final class PromiseTest {
         bestColumn();
         ifReset();
         fullness();
-        thrownChangesNothing();
         Check.end("PromiseTest");
     }
 
@@ -774,27 +773,5 @@ final class PromiseTest {
         Check.due("fullness", Double.doubleToLongBits(x.fullness()), Double.doubleToLongBits(13.0 / 384.0));
         x.reset(1);
         Check.due("fullness with a gone one", Double.doubleToLongBits(x.fullness()), Double.doubleToLongBits(0.03125));
-    }
-
-    private static void thrownChangesNothing() {
-        FallingLines x = Poems.typed("1w1@0+");
-        x.line(3, 4, 5, 1, 0);
-        x.run(3);
-        long before = x.digest();
-        Check.argument("line", () -> x.line(0, 0, 0, 0, 0));
-        Check.argument("run", () -> x.run(0));
-        Check.argument("reset", () -> x.reset(-1));
-        Check.index("push", () -> x.push(1, true));
-        Check.argument("set", () -> x.set(0));
-        Check.argument("append", () -> x.append(0));
-        Check.argument("read", () -> x.read());
-        Check.index("lineOf", () -> x.lineOf(1, 12));
-        Check.argument("at", () -> x.at(16, 24));
-        Check.argument("reads", () -> x.reads(-1));
-        Check.argument("count", () -> x.count(12));
-        Check.argument("ifDropped", () -> x.ifDropped(0, 0, 0, 0));
-        Check.argument("bestColumn", () -> x.bestColumn(0, 0));
-        Check.argument("ifReset", () -> x.ifReset(4));
-        Check.due("digest after what was thrown", x.digest(), before);
     }
 }
