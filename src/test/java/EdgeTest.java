@@ -33,6 +33,7 @@ final class EdgeTest {
         droppedGone();
         droppedBreaks();
         droppedNever();
+        droppedLongUntilRest();
         bestLowestRow();
         bestFewestBreaks();
         bestNone();
@@ -399,7 +400,7 @@ final class EdgeTest {
         Check.due("at rest then", late.count(9), 1);
     }
 
-    /** Ten lines that come late, and get into each other's way; no poem was found to take longer. */
+    /** Ten lines that come late, and get into each other's way; droppedLongUntilRest has eleven. */
     private static FallingLines longUntilRest() {
         int[][] lines = {{12, 1, 0, 99}, {1, 3, 12, 0}, {7, 4, 5, 99}, {6, 3, 2, 99}, {12, 2, 0, 99}, {7, 8, 5, 99},
             {12, 2, 3, 15}, {12, 2, 0, 99}, {12, 3, 0, 99}, {1, 4, 0, 23}};
@@ -517,6 +518,21 @@ final class EdgeTest {
         Check.due("it never rests", late.untilRest(), NONE);
         Check.due("it breaks at the beat 104", late.ifDropped(1, 1, 15, 2), 1);
         Check.due("it is gone, and nothing rests", late.ifDropped(1, 1, 15, 0), NONE);
+    }
+
+    // "its row .. when all is at rest .. within 200 beats": here after 173, the longest that was found
+    private static void droppedLongUntilRest() {
+        int[][] lines = {{6, 3, 16, 99}, {10, 3, 13, 99}, {11, 3, 12, 99}, {7, 7, 0, 8}, {11, 3, 12, 99},
+            {11, 3, 12, 99}, {6, 9, 13, 99}, {12, 3, 12, 99}, {8, 1, 11, 15}, {9, 7, 15, 2}};
+        FallingLines x = new FallingLines();
+        x.set(1);
+        for (int[] line : lines) {
+            x.line(line[0], line[1], line[2], 0, line[3]);
+        }
+        Check.due("without it all waits", x.untilRest(), 0);
+        Check.due("row", x.ifDropped(10, 2, 14, 0), 15);
+        Check.due("column", x.ifDropped(10, 2, 14, 1), 14);
+        Check.due("breaks", x.ifDropped(10, 2, 14, 2), 5);
     }
 
     // "the one with which that is the greatest (the lowest row) .. of several the lowest one"
